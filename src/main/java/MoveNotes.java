@@ -1314,7 +1314,8 @@ public final class MoveNotes {
 
     /**
      * The least PRICES of each BOOK: a row behind each number of MOVES, with a cell for each number of its first NOTES.
-     * What is above the limit stands there as FAR.
+     * What is above the limit, with what the other BOOKS cost at least, is FAR. Few cells of a row are not, so the first
+     * and the last of these are kept, and what lies outside is never looked at.
      */
     private static final class Prices {
         private static final int ROW = MOST_NOTES + 1;
@@ -1323,6 +1324,9 @@ public final class MoveNotes {
         final Question question;
         int limit;
         private final int[] cells = new int[(MOST_MOVES + 1) * MOST_BOOKS * ROW];
+        private final int[] firsts = new int[(MOST_MOVES + 1) * MOST_BOOKS];
+        private final int[] lasts = new int[(MOST_MOVES + 1) * MOST_BOOKS];
+        private final int[] leasts = new int[(MOST_MOVES + 1) * MOST_BOOKS];
 
         Prices(Game game, Question question) {
             this.game = game;
@@ -1331,18 +1335,15 @@ public final class MoveNotes {
 
         void begin(int limit) {
             this.limit = limit;
-            Arrays.fill(cells, FAR);
             for (int book = 0; book < MOST_BOOKS; book++) {
-                set(cells, rowOf(0, book), 0);
+                beginRow(book);
+                setCell(book, 0, 0);
             }
         }
 
-        private static int rowOf(int moves, int book) {
-            return (moves * MOST_BOOKS + book) * ROW;
-        }
-
         int cell(int moves, int book, int notes) {
-            return at(cells, rowOf(moves, book) + notes);
+            int row = moves * MOST_BOOKS + book;
+            return notes < at(firsts, row) || notes > at(lasts, row) ? FAR : at(cells, row * ROW + notes);
         }
 
         /** The PRICE of a READING of so many MOVES. */
@@ -1354,39 +1355,114 @@ public final class MoveNotes {
             return sum;
         }
 
+        /** The PRICE so far of a beginning of so many MOVES. */
+        private int soFar(int moves) {
+            int sum = 0;
+            for (int book = question.firstBook; book < question.behindBooks; book++) {
+                sum += at(leasts, moves * MOST_BOOKS + book);
+            }
+            return sum;
+        }
+
+        /**
+         * The SQUARES to which a MOVE may go, if its PRICE so far shall not be above the limit; a few too many. A MOVE to
+         * a SQUARE that no NOTE which may be next is near to must be LOST in that BOOK, and so many LOST are not paid.
+         */
+        long hopeful(int moves) {
+            long nearOne = 0;
+            long nearTwo = 0;
+            long nearThree = 0;
+            for (int book = question.firstBook; book < question.behindBooks; book++) {
+                long near = nearNotes(moves, book);
+                nearThree |= nearTwo & near;
+                nearTwo |= nearOne & near;
+                nearOne |= near;
+            }
+            int lost = at(question.prices, LOST);
+            int due = question.behindBooks - question.firstBook - (lost > 0 ? (limit - soFar(moves)) / lost : 0);
+            if (due <= 0) {
+                return -1L;
+            }
+            return due == 1 ? nearOne : due == 2 ? nearTwo : nearThree;
+        }
+
+        private long nearNotes(int moves, int book) {
+            int row = moves * MOST_BOOKS + book;
+            int way = at(question.ways, book);
+            long near = 0;
+            for (int n = at(firsts, row); n <= at(lasts, row) && n < game.notesOf(book); n++) {
+                if (at(cells, row * ROW + n) < FAR) {
+                    int file = game.noteCell(book, n, 2);
+                    int rank = counted(game.noteCell(book, n, 3), way, moves & 1);
+                    near |= bitOf(file, rank) | bitOf(file - 1, rank) | bitOf(file + 1, rank)
+                            | bitOf(file, rank - 1) | bitOf(file, rank + 1) | bitOf(file, WIDE - 1 - rank);
+                }
+            }
+            return near;
+        }
+
+        private static long bitOf(int file, int rank) {
+            return file < 0 || file >= WIDE || rank < 0 || rank >= WIDE ? 0L : 1L << (WIDE * rank + file);
+        }
+
         /** The PRICE so far with one more MOVE, of a man of a KIND; its rows are made (as far as they may count). */
         int withMove(int moves, int kind, int move) {
             int lost = at(question.prices, LOST);
             int twice = at(question.prices, TWICE);
             int sum = 0;
+            int others = soFar(moves);
             for (int book = question.firstBook; book < question.behindBooks && sum <= limit; book++) {
-                int old = rowOf(moves, book);
-                int row = rowOf(moves + 1, book);
-                int least = FAR;
-                for (int n = 0; n <= game.notesOf(book); n++) {
-                    int price = lost > 0 ? at(cells, old + n) + lost : FAR;
-                    int ahead = n > 0 ? at(cells, old + n - 1) : FAR;
-                    int slip = ahead > limit ? NONE : slipOf(book, n - 1, kind, move, moves & 1);
+                int old = moves * MOST_BOOKS + book;
+                int row = old + MOST_BOOKS;
+                int last = at(lasts, old);
+                others -= at(leasts, old);
+                int most = limit - sum - others;
+                int ahead = FAR;
+                int made = FAR;
+                beginRow(row);
+                for (int n = at(firsts, old); n <= game.notesOf(book) && (n <= last + 1 || made < FAR); n++) {
+                    int above = n <= last ? at(cells, old * ROW + n) : FAR;
+                    int price = lost > 0 ? above + lost : FAR;
+                    int slip = ahead < FAR ? slipOf(book, n - 1, kind, move, moves & 1) : NONE;
                     if (slip != NONE) {
                         price = Math.min(price, ahead + at(question.prices, slip));
                     }
-                    if (twice > 0 && n > 1 && game.isLikeNote(book, n - 1, book, n - 2)) {
-                        price = Math.min(price, at(cells, row + n - 1) + twice);
+                    if (made < FAR && twice > 0 && n > 1 && game.isLikeNote(book, n - 1, book, n - 2)) {
+                        price = Math.min(price, made + twice);
                     }
-                    price = price > limit ? FAR : price;
-                    set(cells, row + n, price);
-                    least = Math.min(least, price);
+                    ahead = above;
+                    made = price > most ? FAR : price;
+                    setCell(row, n, made);
                 }
-                sum += least;
+                sum += at(leasts, row);
             }
             return sum;
+        }
+
+        private void beginRow(int row) {
+            set(firsts, row, FAR);
+            set(lasts, row, NONE);
+            set(leasts, row, FAR);
+        }
+
+        /** The cells of a row are set from the first on. */
+        private void setCell(int row, int n, int price) {
+            set(cells, row * ROW + n, price);
+            if (price < FAR) {
+                set(firsts, row, Math.min(at(firsts, row), n));
+                set(lasts, row, n);
+                set(leasts, row, Math.min(at(leasts, row), price));
+            }
         }
 
         /** The SLIP with which a NOTE FITS a MOVE of a SIDE: 0 to 5; NONE, if it does not. */
         int slipOf(int book, int note, int kind, int move, int side) {
             int to = move % SQUARES;
-            int from = game.noteCell(book, note, 1);
             int files = game.noteCell(book, note, 2) - to % WIDE;
+            if (files < -1 || files > 1) {
+                return NONE;
+            }
+            int from = game.noteCell(book, note, 1);
             int rank = game.noteCell(book, note, 3);
             int due = counted(to / WIDE, at(question.ways, book), side);
             boolean isKind = game.noteCell(book, note, 0) == kind;
@@ -1395,16 +1471,12 @@ public final class MoveNotes {
             if (wrong != 1) {
                 return wrong == 0 ? 0 : NONE;
             }
-            if (!isKind) {
-                return ifPaid(KIND_SLIP);
+            if (rank != due) {
+                return rankSlip(rank, due);
             }
-            if (!isFrom) {
-                return ifPaid(FROM_SLIP);
-            }
-            if (files != 0) {
-                return files == 1 || files == -1 ? ifPaid(FILE_SLIP) : NONE;
-            }
-            return rankSlip(rank, due);
+            int slip = !isKind ? KIND_SLIP : !isFrom ? FROM_SLIP : FILE_SLIP;
+            // A PRICE of 0 says that the SLIP never is.
+            return at(question.prices, slip) > 0 ? slip : NONE;
         }
 
         private int rankSlip(int rank, int due) {
@@ -1414,11 +1486,6 @@ public final class MoveNotes {
                 return SIDE_SLIP;
             }
             return off > 0 ? RANK_SLIP : NONE;
-        }
-
-        /** A PRICE of 0 says that the SLIP never is. */
-        private int ifPaid(int slip) {
-            return at(question.prices, slip) > 0 ? slip : NONE;
         }
     }
 
@@ -1654,8 +1721,9 @@ public final class MoveNotes {
             }
             tell(moves);
             boolean isLast = moves >= MOST_MOVES || moves >= question.mostMoves(game);
-            for (int from = 0; from < SQUARES && !isLast; from++) {
-                long targets = board.reachOf(from, moves & 1);
+            long hopeful = isLast ? 0L : prices.hopeful(moves);
+            for (int from = 0; from < SQUARES && hopeful != 0; from++) {
+                long targets = board.reachOf(from, moves & 1) & hopeful;
                 int kind = kindOf(at(board.men, from));
                 for (int to = 0; to < SQUARES && targets != 0 && !isSpent(); to++) {
                     int move = SQUARES * from + to;
