@@ -688,7 +688,7 @@ public final class MoveNotes {
         private void split() {
             int count = 0;
             int i = 0;
-            while (i < tape.size) {
+            for (int n = 0; n < MOST_BYTES && i < tape.size; n++) {
                 if (at(tape.bytes, i) == ' ') {
                     i++;
                 } else {
@@ -1722,7 +1722,7 @@ public final class MoveNotes {
             tell(moves);
             boolean isLast = moves >= MOST_MOVES || moves >= question.mostMoves(game);
             long hopeful = isLast ? 0L : prices.hopeful(moves);
-            for (int from = 0; from < SQUARES && hopeful != 0; from++) {
+            for (int from = 0; from < SQUARES && hopeful != 0 && !isSpent(); from++) {
                 long targets = board.reachOf(from, moves & 1) & hopeful;
                 int kind = kindOf(at(board.men, from));
                 for (int to = 0; to < SQUARES && targets != 0 && !isSpent(); to++) {

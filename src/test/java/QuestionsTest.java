@@ -141,6 +141,29 @@ public final class QuestionsTest {
         x.length(3);
         C.same("no READING", x.brief(0), -1);
         C.wrong("i -1 without a READING", () -> x.brief(-1));
+        // From 0 to 1, 2 and so on, beside one who waits on 14: he and who comes from 1 or 2 may go to 8.
+        MoveNotes y = new MoveNotes();
+        Checks.kind(y, "straight 1", 1);
+        y.put(0, 0, 0);
+        y.put(14, 0, 0);
+        y.put(35, 0, 1);
+        y.book(0);
+        y.note(0, 0, 0, 1, 0);
+        y.note(0, 0, -1, 5, 4);
+        y.note(0, 0, -1, 2, 0);
+        y.note(0, 0, -1, 5, 3);
+        y.note(0, 0, -1, 2, 1);
+        C.same("LEAST", y.least(), 0);
+        C.same("MANY: either goes to 8", y.many(), 2);
+        int[] due = {1, 1, 1, 1, 2, -3};
+        for (int i = 0; i < due.length; i++) {
+            C.same("BRIEF at " + i, y.brief(i), due[i]);
+        }
+        y.put(15, 0, 0);
+        y.change(0, 2, 0, -1, 3, 1);
+        y.change(0, 4, 0, -1, 2, 1);
+        C.same("from 15 to 9", y.read(2), Checks.move(15, 9));
+        C.same("9 and 14 may go to 8, 1 may not", y.brief(4), 2);
     }
 
     private static void promise25() {

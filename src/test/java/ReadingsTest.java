@@ -381,6 +381,15 @@ public final class ReadingsTest {
         C.same("NEXT begins alike", y.readNext(0), Checks.move(14, 8));
         C.same("and ends otherwise", y.readNext(1), Checks.move(35, 34));
         C.same("how many", y.readNext(-1), 2);
+        // Of just two.
+        MoveNotes z = new MoveNotes();
+        Checks.kind(z, "straight 1", 1);
+        z.put(0, 0, 0);
+        z.length(1);
+        C.same("two", z.many(), 2);
+        C.same("the second of two", z.readNext(0), Checks.move(0, 6));
+        C.same("of one MOVE", z.readNext(-1), 1);
+        C.same("part of two", z.part(), 0);
     }
 
     /** One MOVE a SIDE: to FILE 0, RANK 1, and to FILE 1, RANK 2; NOTES of FILE 1, RANK 1 are off by one with both. */

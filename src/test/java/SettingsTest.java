@@ -160,6 +160,14 @@ public final class SettingsTest {
         C.same("as it is", w.many(), 10);
         w.picture(1, 34, 0, 1);
         C.same("all must be so", w.many(), -1);
+        // The tenth as well as the first.
+        MoveNotes u = walkers();
+        for (int n = 1; n <= 9; n++) {
+            u.picture(n, 0, -1, n % 2);
+            C.same("READINGS with " + n, u.many(), 11 - n);
+        }
+        u.picture(10, 0, 0, 0);
+        C.same("READINGS with the tenth", u.many(), -1);
         // With THE LENGTH: too short for a PICTURE.
         MoveNotes v = walkers();
         v.picture(3, 12, 0, 0);

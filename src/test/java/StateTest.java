@@ -9,6 +9,7 @@ public final class StateTest {
         promise34();
         promise34Positions();
         throwsChangeNothing();
+        changesAreSeen();
         C.end();
     }
 
@@ -232,5 +233,48 @@ public final class StateTest {
         C.same("PLAYED", x.best(-1), 2);
         C.isFalse("no IMAGE", x.back());
         C.same("the TAPE is still there", x.kind(1), 1);
+    }
+
+    /** Each call that tells something is seen by a question that was asked ahead of it as well. */
+    private static void changesAreSeen() {
+        MoveNotes x = SettingsTest.walkers();
+        C.same("without BOOKS", x.many(), 11);
+        x.image();
+        x.book(0);
+        C.same("book", x.many(), 1);
+        x.back();
+        C.same("back", x.many(), 11);
+        x.write(0, 3, 0, 1);
+        C.same("write", x.read(-1), 3);
+        C.same("its last SLIP", x.slip(0, 2), 0);
+        x.note(0, 0, -1, 5, 3);
+        C.same("note", x.read(-1), 4);
+        x.change(0, 3, 0, -1, 5, 2);
+        C.same("change", x.least(), -1);
+        x.price(3, 4);
+        C.same("price", x.least(), 4);
+        C.same("price: its SLIP", x.slip(0, 3), 3);
+        x.price(3, 5);
+        C.same("price again", x.least(), 5);
+        x.put(35, -1, 0);
+        C.same("put", x.least(), -1);
+        x.put(35, 0, 1);
+        C.same("put again", x.least(), 5);
+        x.length(5);
+        C.same("length", x.least(), -1);
+        x.length(4);
+        C.same("length again", x.least(), 5);
+        C.same("best", x.best(-1), 0);
+        Checks.measure(x, "add 3");
+        C.same("measure", x.best(-1), 12);
+        x.change(0, 3, 0, -1, 5, 3);
+        C.same("change: its SLIP", x.slip(0, 3), 0);
+        x.picture(4, 0, 0, 0);
+        C.same("picture", x.least(), -1);
+        C.same("picture: BEST", x.best(-1), -1);
+        x.back();
+        C.same("back: BEST", x.best(-1), 0);
+        Checks.kind(x, "leap", 1);
+        C.same("kind", x.many(), 11);
     }
 }
