@@ -102,6 +102,26 @@ public final class QuestionsTest {
         C.same("but not with FILES from", x.breaks(b), -3);
         x.change(b, 0, 0, 5, 0, 1);
         C.same("nor where it breaks at once", x.breaks(b), 0);
+        spentAbove8000(-3, new int[][] {{4, 0}, {33, 1}, {32, 0}, {21, 1}, {13, 0}, {15, 0}, {27, 1}, {2, 1}, {17, 0},
+            {24, 1}, {19, 0}, {9, 1}, {34, 0}}, 25, 0, 3, 28, 10, 22, 24, 15, 0);
+        spentAbove8000(-2, new int[][] {{2, 0}, {31, 1}, {13, 0}, {15, 1}, {24, 0}, {25, 1}, {19, 0}, {3, 1}, {16, 0},
+            {6, 1}, {27, 0}, {7, 1}, {14, 0}}, 0, 10, 21, 16, 3, 30, 1, 21, 15, 18, 20);
+    }
+
+    /** Queens alone; NOTES by the SQUARES to. The first asks for 8000 positions, the second for 8001. */
+    private static void spentAbove8000(int due, int[][] men, int... notes) {
+        MoveNotes x = new MoveNotes();
+        Checks.kind(x, "straight 5; slant 5", 1);
+        for (int[] man : men) {
+            x.put(man[0], 0, man[1]);
+        }
+        x.book(0);
+        for (int to : notes) {
+            x.note(0, 0, -1, to % 6, to / 6);
+        }
+        C.same("BREAKS of 8000 positions or one more", x.breaks(0), due);
+        C.same("LEAST of as many", x.least(), due == -3 ? 0 : -2);
+        C.same("positions", x.count(6), due == -3 ? 8000 : -2);
     }
 
     private static void promise24() {
@@ -260,7 +280,28 @@ public final class QuestionsTest {
         played(z, "add 1 if safe; add 10 if not safe", 1);
         z.put(17, 0, 1);
         played(z, "add 1 if safe; add 10 if not safe", 10);
-        // Number, men and safe for SIDE 1.
+        // One on SQUARE 0 may take; and who moved may be of SIDE 1.
+        MoveNotes v = new MoveNotes();
+        Checks.kind(v, "ahead 1", 1);
+        Checks.kind(v, "leap", 1);
+        v.put(2, 0, 0);
+        v.put(0, 1, 1);
+        v.length(1);
+        played(v, "add 1 if safe; add 10 if not safe", 10);
+        v.put(0, 1, 0);
+        v.put(35, 1, 1);
+        v.put(2, -1, 0);
+        v.put(24, 0, 0);
+        v.put(14, 0, 1);
+        v.length(2);
+        v.book(0);
+        v.note(0, 0, -1, 0, 5);
+        v.note(0, 0, -1, 2, 1);
+        C.same("SIDE 1 goes to 8", v.read(1), Checks.move(14, 8));
+        played(v, "add 1 * number if not safe", 2);
+        v.put(0, -1, 0);
+        played(v, "add 1 * number if not safe", 0);
+        // Number and men for SIDE 1.
         MoveNotes w = walkers();
         w.put(1, 0, 0);
         w.put(2, 0, 0);

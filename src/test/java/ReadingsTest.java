@@ -9,6 +9,7 @@ public final class ReadingsTest {
         promise17Ways();
         promise17Books();
         promise17Spent();
+        promise17Longest();
         promise18();
         promise19();
         promise20();
@@ -101,6 +102,27 @@ public final class ReadingsTest {
         z.price(7, 1);
         C.same("of its BOOK", z.least(), 1);
         C.same("the first is none", z.slip(1, 0), 0);
+        // The first NOTE of each BOOK, that FITS no MOVE, with MOVES LOST: all cells 0, or like the last of 24 before.
+        MoveNotes w = walkers();
+        w.book(0);
+        w.note(0, 0, 0, 0, 0);
+        w.price(6, 1);
+        w.price(7, 1);
+        C.same("the first of all is not TWICE", w.least(), -1);
+        MoveNotes v = walkers();
+        v.book(0);
+        for (int n = 0; n < 24; n++) {
+            v.note(0, 0, 0, 0, 1);
+        }
+        v.price(6, 1);
+        v.price(7, 1);
+        v.book(0);
+        v.note(1, 0, 0, 0, 1);
+        v.change(0, 0, 0, 0, 0, 1);
+        C.same("24 less one are TWICE", v.least(), -1);
+        v.image();
+        C.same("alone", v.way(1), -3);
+        C.same("one and 23 are too much", v.breaks(0), 1);
     }
 
     /** One man, one MOVE: from SQUARE 8 to 14, or by RANK 0 from 2 to 8; another KIND too. */
@@ -284,6 +306,50 @@ public final class ReadingsTest {
             C.same("count(6) of 21 times " + (380 + n), x.count(6), n == 0 ? 7980 : -2);
             C.same("odds of 21 times " + (380 + n), x.odds(0, 0, false), n == 0 ? -1 : -2);
         }
+    }
+
+    /** Three BOOKS of 24 NOTES each and 30 MOVES: two men of one MOVE each for ever, between others without LINES. */
+    private static void promise17Longest() {
+        MoveNotes x = new MoveNotes();
+        Checks.kind(x, "straight 1", 1);
+        Checks.kind(x, "", 1);
+        int[] still = {2, 6, 7, 33, 29, 28};
+        for (int n = 0; n < 6; n++) {
+            x.put(still[n], 1, n / 3);
+        }
+        x.put(0, 0, 0);
+        x.put(35, 0, 1);
+        for (int b = 0; b < 3; b++) {
+            x.book(b % 2);
+            for (int n = 0; n < 24; n++) {
+                int file = n % 2 == 0 ? (n + 2) / 2 % 2 : 5 - (n + 1) / 2 % 2;
+                x.note(b, 0, -1, file, n % 2 == 1 && b % 2 == 0 ? 5 : 0);
+            }
+        }
+        C.same("24 MOVES", x.read(-1), 24);
+        C.same("the last NOTE of all", x.slip(2, 23), 0);
+        x.length(30);
+        C.same("30 MOVES", x.least(), -1);
+        x.price(6, 1);
+        C.same("six LOST in each BOOK", x.least(), 18);
+        C.same("one READING", x.many(), 1);
+        C.same("24 positions for 24 MOVES and START, then one more for each three", x.count(6),
+                3 * (25 + 26 + 27 + 28 + 29 + 30) + 31);
+        for (int b = 0; b < 3; b++) {
+            C.same("LOST in BOOK " + b, x.slips(b, 6), 6);
+            C.same("the last NOTE of BOOK " + b, x.slip(b, 23), 0);
+        }
+        Checks.measure(x, "add 1 * number");
+        C.same("PLAYED", x.best(-1), 465);
+        C.same("the last MOVE", x.best(29), Checks.move(35, 34));
+        C.same("odds of the last MOVE", x.odds(29, 2, true), 1);
+        C.same("BRIEF at the last MOVE", x.brief(29), 1);
+        x.change(2, 23, 0, -1, 3, 5);
+        C.same("the last NOTE otherwise", x.least(), -1);
+        x.price(2, 2);
+        C.same("the FILE of the last NOTE", x.least(), 20);
+        C.same("its SLIP", x.slip(2, 23), 2);
+        C.same("that of another BOOK", x.slip(1, 23), 0);
     }
 
     private static void promise18() {
