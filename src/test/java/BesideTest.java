@@ -99,6 +99,11 @@ public final class BesideTest {
         C.same("one is shared", x.shared(0, 1, false), 1);
         x.change(0, 1, 0, -1, 5, 3);
         C.same("the first has another SLIP there", x.shared(0, 1, true), 1);
+        x.change(0, 1, 0, -1, 5, 4);
+        x.change(0, 0, 0, -1, 0, 1);
+        x.change(0, 1, 0, -1, 4, 4);
+        C.same("it may be MOVE 0 that the first has right", x.shared(0, 1, true), 0);
+        C.same("one is shared all the same", x.shared(0, 1, false), 1);
         // The first has none: LOST.
         MoveNotes y = SettingsTest.walkers();
         y.book(0);
@@ -333,6 +338,14 @@ public final class BesideTest {
         C.noPlace("slip 0", () -> x.cheaper(0));
         C.noPlace("slip 8", () -> x.cheaper(8));
         C.noPlace("slip -1", () -> x.cheaper(-1));
+        x.price(2, 2);
+        x.price(3, 0);
+        C.same("FILE for 2", x.cheaper(2), 1);
+        // Also behind a question about one BOOK alone.
+        x.book(0);
+        x.note(1, 0, -1, 0, 2);
+        C.same("by neither WAY less", x.way(1), -3);
+        C.same("FILE of the first BOOK for 2", x.cheaper(2), 1);
         // Another READING may be least then.
         MoveNotes y = new MoveNotes();
         Checks.kind(y, "straight 1", 1);

@@ -512,6 +512,19 @@ public final class QuestionsTest {
         // behind 34. MOVE 2 is the same for half of them: 1 to 7, or 6 to 7.
         odds(y, 2, new long[][] {{1, 2}, {1, 2}});
         C.same("no MOVE 3", y.odds(3, 1, true), -3);
+        // A READING that ends ahead of MOVE 1 does not have it: 8 to 14 and 21 takes 14, or 8 to 14 and a NOTE TWICE.
+        MoveNotes z = new MoveNotes();
+        Checks.kind(z, "ahead 1; bite", 1);
+        z.put(8, 0, 0);
+        z.put(21, 0, 1);
+        z.book(0);
+        z.note(0, 0, -1, 2, 2);
+        z.note(0, 0, -1, 2, 2);
+        z.price(7, 1);
+        C.same("LEAST", z.least(), 0);
+        C.same("FIRST takes", z.read(1), Checks.move(21, 14));
+        odds(z, 1, new long[][] {{1, 1}, {4, 5}, {4, 5}});
+        odds(z, 0, new long[][] {{1, 1}, {1, 1}, {1, 1}});
     }
 
     private static void odds(MoveNotes x, int i, long[][] due) {

@@ -546,6 +546,28 @@ public final class ReadingsTest {
         C.same("book 1, note 0 again", y.slip(1, 0), 5);
         y.change(0, 1, 0, -1, 5, 4);
         C.same("set otherwise", y.slip(0, 1), 0);
+        // Each MOVE is of its own man: KINDS 0, 1, 2 by turns.
+        MoveNotes z = new MoveNotes();
+        Checks.kind(z, "ahead 1", 1);
+        Checks.kind(z, "ahead 1", 1);
+        Checks.kind(z, "ahead 1", 1);
+        z.put(0, 0, 0);
+        z.put(35, 1, 1);
+        z.put(2, 2, 0);
+        z.book(0);
+        z.note(0, 0, 0, 0, 1);
+        z.note(0, 1, 5, 5, 4);
+        z.note(0, 2, 2, 2, 1);
+        z.price(1, 1);
+        z.price(5, 2);
+        C.same("all as it is", z.least(), 0);
+        z.change(0, 1, 2, 5, 5, 4);
+        C.same("KIND of the second", z.slip(0, 1), 1);
+        C.same("not of the third", z.slip(0, 2), 0);
+        z.change(0, 2, 2, 3, 2, 1);
+        C.same("FILE from of the third", z.slip(0, 2), 5);
+        C.same("KIND of the second still", z.slip(0, 1), 1);
+        C.same("LEAST of both", z.least(), 3);
     }
 
     private static void promise22() {

@@ -127,6 +127,12 @@ public final class StateTest {
         C.same("PLAYED", y.best(-1), 4);
         y.back();
         C.same("without a MEASURE", y.best(-1), 0);
+        Checks.measure(y, "add 5; add 6");
+        y.image();
+        Checks.measure(y, "add 1");
+        C.same("a shorter MEASURE", y.best(-1), 1);
+        y.back();
+        C.same("the longer one", y.best(-1), 11);
         // The WAY of a BOOK.
         MoveNotes z = SettingsTest.walkers();
         z.image();
