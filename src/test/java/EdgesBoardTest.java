@@ -36,6 +36,7 @@ public final class EdgesBoardTest {
         slipRank();
         slipSide();
         slipFrom();
+        slipsOfAll();
         prices();
         priceOfZero();
         twice();
@@ -568,6 +569,64 @@ public final class EdgesBoardTest {
         C.same("FILE from and FILE to", slipOf(14, 20, 0, 0, 1, 3), -1);
         C.same("FILE from and RANK", slipOf(14, 20, 0, 0, 2, 4), -1);
         C.same("FILE from and KIND", slipOf(14, 20, 1, 0, 2, 3), -1);
+    }
+
+    /** The SLIP with which a NOTE FITS a MOVE, by the words of the document; -1 without. RANK 2 and 3: the lesser number. */
+    private static int fits(int kind, int[] note, int from, int to, boolean isTurned) {
+        int rank = isTurned ? 5 - to / 6 : to / 6;
+        boolean[] so = {note[0] == kind, note[2] == to % 6, note[3] == rank, note[1] == -1 || note[1] == from % 6};
+        int wrong = 0;
+        for (boolean is : so) {
+            wrong += is ? 0 : 1;
+        }
+        if (wrong != 1) {
+            return wrong == 0 ? 0 : -1;
+        }
+        if (!so[0]) {
+            return 1;
+        }
+        if (!so[1]) {
+            return Math.abs(note[2] - to % 6) == 1 ? 2 : -1;
+        }
+        if (!so[2]) {
+            return Math.abs(note[3] - rank) == 1 ? 3 : 5 - note[3] == rank ? 4 : -1;
+        }
+        return 5;
+    }
+
+    // "A NOTE FITS a MOVE with a SLIP": for both SIDES and WAYS, and whether MOVES may be LOST or not
+    private static void slipsOfAll() {
+        int[][] moves = {{14, 20}, {0, 30}, {35, 5}, {21, 18}};
+        for (int[] move : moves) {
+            for (int n = 0; n < 16; n++) {
+                int side = n & 1;
+                int way = n >> 1 & 1;
+                int kind = n >> 2 & 1;
+                MoveNotes x = with("straight 5", "straight 5", "ahead 1");
+                x.put(move[0], kind, side);
+                x.put(side == 0 ? 33 : 3, 2, 1 - side);
+                x.length(side + 1);
+                x.picture(side + 1, move[1], kind, side);
+                x.book(way);
+                if (side == 1) {
+                    x.note(0, 2, -1, 3, 1);
+                }
+                x.note(0, 0, -1, 0, 0);
+                for (int slip = 1; slip <= 6; slip++) {
+                    x.price(slip, slip < 6 ? slip : n >> 3);
+                }
+                for (int cell = 0; cell < 2 * 3 * 36; cell++) {
+                    int from = cell / 72 == 0 ? -1 : (move[0] % 6 + cell / 72 - 1) % 6;
+                    int[] note = {cell % 2, from, cell / 2 % 6, cell / 12 % 6};
+                    x.change(0, side, note[0], note[1], note[2], note[3]);
+                    int due = fits(kind, note, move[0], move[1], side == 1 && way == 1);
+                    String what = "KIND " + kind + " of SIDE " + side + " to " + move[1] + ", WAY " + way + ", NOTE " + note[0]
+                            + " " + note[1] + " " + note[2] + " " + note[3];
+                    C.same("LEAST of " + what, x.least(), due);
+                    C.same("SLIP of " + what, x.slip(0, side), due);
+                }
+            }
+        }
     }
 
     // "PRICES (0 to 9) of 1 to 5, and of 6 LOST ... 7 TWICE"; "(All 0 at first.)"

@@ -255,7 +255,9 @@ public final class EdgesQuestionsTest {
             C.same(t[0], Checks.faultOfMeasure(t[0]), Integer.parseInt(t[1]));
         }
         String[][] kinds = {{"leapleap", "0"}, {"straight1", "-1"}, {"straight1slant1", "9"}, {"straightone", "0"},
-            {"bite;leap", "-1"}, {"bites", "0"}, {"bit", "0"}, {"b", "0"}, {"LEAP", "0"}};
+            {"bite;leap", "-1"}, {"bites", "0"}, {"bitez", "0"}, {"zbite", "0"}, {"bitea", "0"}, {"abite", "0"},
+            {"bite`", "4"}, {"bite{", "4"}, {"straight1/", "9"}, {"straight1:", "9"}, {"bit", "0"}, {"b", "0"},
+            {"LEAP", "0"}};
         for (String[] t : kinds) {
             C.same(t[0], Checks.faultOfKind(t[0]), Integer.parseInt(t[1]));
         }
@@ -605,6 +607,23 @@ public final class EdgesQuestionsTest {
         y.note(1, 0, -1, 0, 2);
         C.same("RANK one less, one more", y.shared(0, 1, false), 0);
         C.same("with itself", y.shared(1, 1, false), 1);
+        // None in the other: LOST.
+        MoveNotes z = walkers();
+        z.price(3, 1);
+        z.price(6, 1);
+        z.length(1);
+        for (int b = 0; b < 3; b++) {
+            z.book(0);
+        }
+        z.note(1, 0, -1, 0, 0);
+        C.same("RANK", z.slip(1, 0), 3);
+        for (int b = 0; b < 3; b += 2) {
+            C.same("LOST in the second", z.shared(1, b, false), 0);
+            C.same("LOST in the first", z.shared(b, 1, false), 0);
+            C.same("LOST in the first is not COPIED", z.shared(b, 1, true), 0);
+            C.same("nor in the second", z.shared(1, b, true), 0);
+        }
+        C.same("LOST in both", z.shared(0, 2, false), 0);
     }
 
     // "COPIED: that is more than the MOVES whose NOTE in the second has a SLIP (1 to 5), but that in the first none (0), or
